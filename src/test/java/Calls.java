@@ -4,7 +4,35 @@ final class Calls {
         "time", "apart", "quarrel", "without", "deed", "forget", "prices", "cost", "least", "many", "story", "sure",
         "parts", "ask", "tell", "check", "count", "found"};
 
+    private static final String FLAGGED = " offset span time apart without ";
+
     private Calls() {
+    }
+
+    static boolean isFlagged(String name) {
+        return FLAGGED.contains(" " + name + " ");
+    }
+
+    /** The numbers of a call that is written as "tie 0 1 -5" or "time 0 true"; those it doesn't write are 0. */
+    static int[] numbersOf(String call) {
+        String[] words = call.split(" ");
+        int[] numbers = new int[5];
+        for (int i = 1; i < words.length && !words[i].equals("true") && !words[i].equals("false"); i++) {
+            numbers[i - 1] = Integer.parseInt(words[i]);
+        }
+        return numbers;
+    }
+
+    static String nameOf(String call) {
+        return call.split(" ")[0];
+    }
+
+    static boolean flagOf(String call) {
+        return call.endsWith(" true");
+    }
+
+    static long answer(AfterDesk desk, String call) {
+        return answer(desk, nameOf(call), numbersOf(call), flagOf(call));
     }
 
     /** The answer of a call, whose numbers are the first of n. */

@@ -35,6 +35,11 @@ final class Model {
         }
     }
 
+    /** Answers a call that is written as Calls says. */
+    long call(String call) {
+        return call(Calls.nameOf(call), Calls.numbersOf(call), Calls.flagOf(call));
+    }
+
     /** Answers the call of the public face that has this name. */
     long call(String name, int[] n, boolean flag) {
         long answer = switch (name) {

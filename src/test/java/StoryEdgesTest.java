@@ -130,6 +130,9 @@ public final class StoryEdgesTest {
         Due.is("18 the greatest miss", x.cost(1), 2000);
         x.prices(0, 1000);
         Due.is("18 the least miss", x.cost(1), 0);
+        Due.is("18 two stories at the least miss", x.many(), 2);
+        x.prices(1, 1000);
+        Due.is("18 one story at a greater one", x.many(), 1);
     }
 
     private static void pricesOfForge() {
@@ -141,6 +144,9 @@ public final class StoryEdgesTest {
         Due.is("18 the greatest forge", x.cost(0), 2000);
         x.prices(1000, 0);
         Due.is("18 the least forge", x.cost(0), 0);
+        Due.is("18 the least story at it", x.least(), 0);
+        x.prices(1000, 1);
+        Due.is("18 the least story at a greater one", x.least(), 2);
         Refusal.is("18 neither", Desks.PLAIN, "prices -1 1001", BEYOND);
     }
 

@@ -24,6 +24,8 @@ public final class TimeEdgesTest {
         quarrelOfTwoAndOfAll();
         quarrelOfTheFewest();
         quarrelOfTheLeastBits();
+        quarrelOfRingsThatShareTraces();
+        quarrelBesideAWiderWay();
         quarrelOfLeastAndGreatest();
         withoutEachTrace();
         withoutTheSame();
@@ -248,6 +250,37 @@ public final class TimeEdgesTest {
             x.tie(pair[1], pair[0], 1);
             Due.is("14 of several the least", x.quarrel(), 1 << pair[0] | 1 << pair[1]);
         }
+    }
+
+    private static void quarrelOfRingsThatShareTraces() {
+        AfterDesk x = new AfterDesk();
+        for (int i = 0; i < 6; i++) {
+            x.trace(0, 0, 0, 0);
+        }
+        int[][] rings = {{5, 4, 3}, {5, 4, 0}, {4, 3, 1}, {4, 2, 0}, {3, 2, 1}, {3, 1, 0}};
+        int[] due = {56, 49, 26, 21, 14, 11};
+        for (int i = 0; i < rings.length; i++) {
+            for (int j = 0; j < 3; j++) {
+                x.tie(rings[i][j], rings[i][(j + 1) % 3], j == 2 ? -40 : 21);
+            }
+            Due.is("14 of threes that share traces the least", x.quarrel(), due[i]);
+        }
+    }
+
+    /** From the first TRACE to the last there are two ways, and only the way over TRACE 1 is too long. */
+    private static void quarrelBesideAWiderWay() {
+        AfterDesk x = new AfterDesk();
+        for (int i = 0; i < 4; i++) {
+            x.trace(0, 0, 0, 0);
+        }
+        x.tie(3, 1, 5);
+        x.tie(1, 0, 5);
+        x.tie(3, 2, -20);
+        x.tie(2, 0, 1);
+        x.tie(0, 3, -10);
+        Due.is("14 both ways just hold", x.quarrel(), NONE);
+        x.tie(0, 3, -9);
+        Due.is("14 one way doesn't", x.quarrel(), 11);
     }
 
     /** From the first TRACE it takes eleven times the greatest d to the last, whose latest is the greatest. */

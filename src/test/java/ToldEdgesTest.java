@@ -16,6 +16,7 @@ public final class ToldEdgesTest {
         checkOfNoTraces();
         checkOfOneTrace();
         checkOfMissingNumbers();
+        checkOfNumbersThatAreGone();
         checkOfWrongNumbers();
         checkOfLeastAndGreatestInts();
         checkOfMoreNumbers();
@@ -129,6 +130,23 @@ public final class ToldEdgesTest {
             tellRight(x, told);
             Due.is("27 " + told + " numbers of three traces", x.check(), told == 6 ? 0 : 1 + told / 2);
         }
+    }
+
+    private static void checkOfNumbersThatAreGone() {
+        AfterDesk x = withTraces(2);
+        tellRight(x, 4);
+        Due.is("27 right", x.check(), 0);
+        Due.is("27 the right ones are gone", x.check(), 1);
+        for (int told = 1; told <= 3; told++) {
+            tellRight(x, told);
+            Due.is("27 the right ones behind " + told + " are gone", x.check(), told == 1 ? 1 : 2);
+        }
+        AfterDesk y = new AfterDesk();
+        y.piece(0, 0, 0, 0);
+        y.trace(0, 0, 0, 0);
+        Due.is("27 missing isn't 0", y.check(), 1);
+        y.tell(0);
+        Due.is("27 one missing isn't 0", y.check(), 1);
     }
 
     private static void checkOfWrongNumbers() {

@@ -16,6 +16,7 @@ public final class TraceEdgesTest {
         dropOfTheOnlyOne();
         dropOfAFullDesk();
         dropTakesItsTies();
+        dropLeavesOtherTies();
         dropTakesAllTies();
         dropOfAMark();
         aboutOfEachTrace();
@@ -122,6 +123,26 @@ public final class TraceEdgesTest {
         Due.is("6 a new one isn't tied", x.apart(0, 2, false), NONE);
     }
 
+    private static void dropLeavesOtherTies() {
+        AfterDesk x = new AfterDesk();
+        for (int i = 0; i < 4; i++) {
+            x.trace(0, 0, 0, 0);
+        }
+        x.tie(0, 1, 5);
+        x.tie(3, 0, 1);
+        x.tie(1, 2, 7);
+        x.tie(2, 3, 1);
+        x.tie(2, 0, -20);
+        Due.is("6 the last goes", x.drop(), 3);
+        Due.is("6 three ties stay", x.count(1), 3);
+        Due.is("6 the first stays", x.apart(0, 1, false), 5);
+        Due.is("6 one behind stays", x.apart(1, 2, false), 7);
+        Due.is("6 the last stays", x.apart(0, 2, true), 20);
+        Due.is("6 nothing is left of it", x.untie(3), BEYOND);
+        Due.is("6 the first is the first", x.untie(0), 2);
+        Due.is("6 it is gone", x.apart(0, 1, false), NONE);
+    }
+
     private static void dropTakesAllTies() {
         AfterDesk x = new AfterDesk();
         x.trace(0, 0, 0, 0);
@@ -145,6 +166,9 @@ public final class TraceEdgesTest {
         x.drop();
         Due.is("6 none has its mark", x.count(4), 1);
         Due.is("6 it isn't there", x.parts(0), NONE);
+        Due.is("6 no story explains the other", x.many(), 0);
+        x.drop();
+        Due.is("6 the empty story does by now", x.many(), 1);
     }
 
     private static void aboutOfEachTrace() {

@@ -35,7 +35,7 @@ public final class AfterDesk {
     private static final int NOBODY = -1;
     private static final int MORE_TOLD = 99;
     /** Above every sum of bounds that a desk can hold, and low enough that two of them don't wrap around. */
-    private static final long NO_BOUND = Long.MAX_VALUE / 4;
+    private static final long NO_BOUND = 1L << 60;
 
     private final Clock[] clocks;
     private final Traces traces;

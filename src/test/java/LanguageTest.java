@@ -8,6 +8,7 @@ import java.nio.file.Path;
 import java.util.Random;
 import java.util.Set;
 import java.util.TreeSet;
+import java.util.regex.Matcher;
 import java.util.regex.Pattern;
 
 /** Rules of LANGUAGE.md that a program can look at: the face, the words, the room, and that no call throws. */
@@ -19,6 +20,7 @@ public final class LanguageTest {
         "long deed(int,int,int,int,int)", "long forget(int)", "long prices(int,int)", "long cost(int)", "long least()",
         "long many()", "long story(int)", "long sure(int)", "long parts(int)", "long ask()", "long tell(int)",
         "long check()", "long count(int)", "long found(int)");
+    private static final Set<String> LIBRARY = Set.of("Integer.bitCount(", "Math.max(", "Math.min(", "Arrays.fill(");
     private static final String[] WORDS = {"throw", "throws", "try", "catch", "synchronized", "assert", "float",
         "double", "Exact", "System", "Object", "package", "equals", "hashCode", "toString"};
 
@@ -26,6 +28,7 @@ public final class LanguageTest {
         lookAtFace();
         lookAtInside();
         lookAtWords();
+        lookAtLibrary();
         lookAtMethodLengths();
         callWildly();
         measureRoom();
@@ -43,7 +46,9 @@ public final class LanguageTest {
         }
         Due.holds("rule 1: the face is " + open, open.equals(FACE));
         for (Field field : AfterDesk.class.getDeclaredFields()) {
-            Due.holds("rule 1: " + field.getName() + " is private", Modifier.isPrivate(field.getModifiers()));
+            int kind = field.getModifiers();
+            Due.holds("rule 1: " + field.getName() + " is private", Modifier.isPrivate(kind));
+            Due.holds("rule 5: " + field, !Modifier.isStatic(kind) || Modifier.isFinal(kind));
         }
         Constructor<?>[] constructors = AfterDesk.class.getDeclaredConstructors();
         Due.is("rule 1: constructors", constructors.length, 1);
@@ -102,6 +107,17 @@ public final class LanguageTest {
         Due.holds("rule 2: no lambda, no method reference", !program.contains("->") && !program.contains("::"));
         Due.holds("rule 4: Arrays alone", program.split("import ").length == 2
             && program.contains("import java.util.Arrays;"));
+    }
+
+    /** Of the library only functions that rule 4 lists, and no fields such as Long.MAX_VALUE; no texts at all. */
+    private static void lookAtLibrary() throws Exception {
+        String body = program().replace("import java.util.Arrays;", "");
+        Matcher use = Pattern.compile("\\b(Integer|Long|Math|Arrays|String|StringBuilder|List|ArrayList)\\b(\\.\\w+\\()?")
+            .matcher(body);
+        while (use.find()) {
+            Due.holds("rule 4: " + use.group(), LIBRARY.contains(use.group()));
+        }
+        Due.holds("rule 10: no texts", !body.contains("\""));
     }
 
     private static void lookAtMethodLengths() throws Exception {
